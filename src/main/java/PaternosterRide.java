@@ -268,7 +268,7 @@ public final class PaternosterRide {
     }
 
     public int ask() {
-        return sightings.bestQuestion(told.floors);
+        return sightings.bestQuestion(told.floors, sightings.fittingKinds(told.floors));
     }
 
     // ---- notes
@@ -616,7 +616,7 @@ public final class PaternosterRide {
         int steps;
         int shutCabins;
         final int[] state = new int[MOST_PEOPLE];
-        final int[] cabin = new int[MOST_PEOPLE];
+        final int[] inCabin = new int[MOST_PEOPLE];
         final int[] ridden = new int[MOST_PEOPLE];
 
         House(Plan plan) {
@@ -635,13 +635,13 @@ public final class PaternosterRide {
             steps = other.steps;
             shutCabins = other.shutCabins;
             System.arraycopy(other.state, 0, state, 0, MOST_PEOPLE);
-            System.arraycopy(other.cabin, 0, cabin, 0, MOST_PEOPLE);
+            System.arraycopy(other.inCabin, 0, inCabin, 0, MOST_PEOPLE);
             System.arraycopy(other.ridden, 0, ridden, 0, MOST_PEOPLE);
         }
 
         private void put(int person, int newState, int newCabin) {
             state[person] = newState;
-            cabin[person] = newCabin;
+            inCabin[person] = newCabin;
             ridden[person] = 0;
         }
 
@@ -670,7 +670,7 @@ public final class PaternosterRide {
         }
 
         boolean isWaiting(int person) {
-            return plan.hasPerson(person) && state[person] == WAITS;
+            return person >= 0 && person < plan.people && state[person] == WAITS;
         }
 
         int peopleWho(int wanted) {
@@ -690,7 +690,7 @@ public final class PaternosterRide {
         int ridersIn(int wanted) {
             int bits = 0;
             for (int p = 0; p < plan.people; p++) {
-                if (state[p] == RIDES && cabin[p] == wanted) {
+                if (state[p] == RIDES && inCabin[p] == wanted) {
                     bits |= 1 << p;
                 }
             }
@@ -700,7 +700,7 @@ public final class PaternosterRide {
         int roomLeft(int wanted) {
             int left = plan.room;
             for (int p = 0; p < plan.people; p++) {
-                if (state[p] == RIDES && cabin[p] == wanted) {
+                if (state[p] == RIDES && inCabin[p] == wanted) {
                     left -= plan.kind[p].takes;
                 }
             }
@@ -713,7 +713,7 @@ public final class PaternosterRide {
             }
             switch (what) {
                 case STATE: return state[person];
-                case CABIN: return cabin[person];
+                case CABIN: return inCabin[person];
                 case RIDDEN: return ridden[person];
                 default: return OUTSIDE;
             }
@@ -738,9 +738,9 @@ public final class PaternosterRide {
                 }
                 ridden[p]++;
                 boolean will = !plan.kind[p].ridesRightRound() || ridden[p] >= plan.ring();
-                if (will && floorAt(placeOf(cabin[p])) == plan.to[p]) {
+                if (will && floorAt(placeOf(inCabin[p])) == plan.to[p]) {
                     state[p] = THERE;
-                    cabin[p] = NONE;
+                    inCabin[p] = NONE;
                 }
             }
         }
@@ -956,10 +956,10 @@ public final class PaternosterRide {
         }
 
         private static int sortOf(int letter) {
-            if (within(letter, 'a', 'z')) {
+            if (letter >= 'a' && letter <= 'z') {
                 return LETTERS;
             }
-            return within(letter, '0', '9') ? DIGITS : ANY_OTHER;
+            return letter >= '0' && letter <= '9' ? DIGITS : ANY_OTHER;
         }
     }
 
@@ -1198,8 +1198,7 @@ public final class PaternosterRide {
             return NEVER;
         }
 
-        int bestQuestion(int floors) {
-            int kinds = fittingKinds(floors);
+        int bestQuestion(int floors, int kinds) {
             int fewest = Integer.bitCount(kinds);
             int question = NONE;
             for (int a = 0; a < floors; a++) {
