@@ -131,6 +131,9 @@ public final class ModelTest {
       call("erase");
       for (char c : b.toString().toCharArray()) { call("write", c); }
       call("hall");
+      // Few open cabins make people wait for turns on end, up to what can be foretold and beyond.
+      int open = dice.nextInt(3) == 0 ? 1 + dice.nextInt(2) : 2 * floors;
+      for (int c = 0; c < 2 * floors - open; c++) { call("shut", (c + seed) % (2 * floors)); }
       for (int i = 0; i < 3; i++) {
         call("order", -1);
         call("order", dice.nextInt(6));

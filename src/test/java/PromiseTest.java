@@ -48,7 +48,7 @@ public final class PromiseTest {
   public static void main(String[] args) {
     newObject(); write(); erase(); fault(); hall(); hallForgets(); person(); cabin(); as();
     step(); stepsByKind(); stepsInNarrowCabins(); shut(); stairs(); undo(); keepAndBack();
-    behind(); arrives(); all(); meet(); jam(); order(); dares();
+    behind(); arrives(); all(); meet(); jam(); order(); dares(); asFarAsCanBeForetold(); aWholeTurnOff();
     seen(); forget(); kinds(); ask();
     notes(); insert(); look(); cut(); turn(); reverse(); paste(); often(); drop(); count();
     System.out.println(wrong == 0 ? "all promises hold" : wrong + " answers are not as due");
@@ -190,6 +190,15 @@ public final class PromiseTest {
     PaternosterRide x = told(eight.toString());
     spell(x, "shut 1;timid 0 1");
     due("fault() of a ninth in a later text", x.fault(), 7);
+    faultOf("hall 3" + " ".repeat(194), NONE);
+    faultOf("hall" + " ".repeat(196), 200);
+    faultOf(" ".repeat(196) + "shut", 200);
+    faultOf(" ".repeat(200), 200);
+    x = new PaternosterRide();
+    spell(x, "shut 0");
+    x.erase();
+    spell(x, "shut ");
+    due("fault() of a text that is shorter than the last one", x.fault(), 5);
     x = told("hall 7");
     spell(x, "plain 6 0;shut 13");
     due("fault() by the floors of an earlier text", x.fault(), NONE);
@@ -700,6 +709,60 @@ public final class PromiseTest {
     due("order(0)", x.order(0), 2);
     due("order(1)", x.order(1), 0);
     due("order(2)", x.order(2), 1);
+  }
+
+  /** A house in which one cabin alone is open. */
+  private static PaternosterRide oneOpen(String text, int open) {
+    PaternosterRide x = told(text);
+    for (int c = 0; c < 2 * x.count(0); c++) { if (c != open) { x.shut(c); } }
+    return x;
+  }
+
+  private static void asFarAsCanBeForetold() {
+    // Cabin 2 of 14 is at floor 0, going up, behind 12, 26, 40, 54, and at floor 6 six steps farther; cabin 1 a step later.
+    String four = "hall 7;room 1;plain 0 6;plain 0 6;plain 0 6;plain 0 6";
+    PaternosterRide x = oneOpen(four, 2), y = oneOpen(four, 1);
+    promise = 15;
+    due("behind(3, 59, 3)", x.behind(3, 59, 3), 1);
+    due("behind(3, 60, 3)", x.behind(3, 60, 3), 2);
+    due("behind(3, 60, 3), a step later", y.behind(3, 60, 3), 1);
+    promise = 16;
+    for (int p = 0; p < 4; p++) { due("arrives(" + p + ")", x.arrives(p), 18 + 14 * p); }
+    due("arrives(2), a step later", y.arrives(2), 47);
+    due("arrives(3), a step later", y.arrives(3), NONE);
+    promise = 17;
+    due("all() behind 60", x.all(), 60);
+    due("all() behind 61", y.all(), NONE);
+    promise = 19;
+    due("jam(0) with one open", x.jam(0), 2);
+    due("jam(1) with one open", x.jam(1), NONE);
+    promise = 20;
+    due("order(-1) behind 60", x.order(-1), 18 + 32 + 46 + 60);
+    due("order(-1) behind 61", y.order(-1), 19 + 33 + 47 + 61);
+    promise = 18;
+    // Four bearers fill the cabin by turns; the two plain ones get in at the fifth, behind 60 or 61.
+    String six = "hall 7;bearer 0 6;bearer 0 6;bearer 0 6;bearer 0 6;plain 0 6;plain 0 6";
+    due("meet(4, 5) behind 60", oneOpen(six, 10).meet(4, 5), 60);
+    due("meet(4, 5) behind 61", oneOpen(six, 9).meet(4, 5), NONE);
+    promise = 19;
+    // Of the two open ones 12 comes first, so that without it all three wait for the later one.
+    PaternosterRide z = oneOpen("hall 7;room 1;plain 0 6;plain 0 6;plain 0 6", 2);
+    z.shut(12);
+    due("jam(0) with two open", z.jam(0), 12);
+    due("jam(1) with two open", z.jam(1), 46);
+  }
+
+  private static void aWholeTurnOff() {
+    promise = 20;
+    // Cabin 0 of 4 has just gone, and comes back behind 4.
+    due("order(-1) of one", oneOpen("hall 2;plain 0 1", 0).order(-1), 5);
+    PaternosterRide x = oneOpen("hall 2;room 1;plain 0 1;plain 0 1", 0);
+    due("order(-1) of two", x.order(-1), 5 + 9);
+    x = oneOpen("hall 2;room 1;plain 0 1;bearer 0 1;plain 0 1", 0);
+    due("order(-1) of two and one who never", x.order(-1), 5 + 9 + 61);
+    due("order(0)", x.order(0), 0);
+    due("order(1)", x.order(1), 1);
+    due("order(2)", x.order(2), 2);
   }
 
   private static void odds(PaternosterRide x, int person, int q, int n, int above, int below) {
