@@ -110,6 +110,9 @@ final class ForetoldEdges {
     Edges.run("{plain 0 1;timid 0 1;plain 0 1;timid 0 1} order(-1)=10 order(0)=1 order(1)=0 order(2)=3 order(3)=2 order(4)=NONE order(5)=NONE");
     // Who goes far looks behind who goes near, whose cabin then has room for the one on floor 1.
     Edges.run("{room 1;plain 0 3;plain 0 1;plain 1 2;shut 0} order(-1)=10 order(0)=1 order(1)=0 order(2)=2");
+    // The last of all lines but one is the best: 60 steps in rising order, 52 in this one.
+    Edges.run("{hall 6;room 1;timid 3 1;plain 3 1;hasty 3 1;idler 3 2;idler 3 4;plain 3 4;shut 4;shut 7;shut 8;shut 10;shut 11} "
+      + "order(-1)=52 order(0)=5 order(1)=4 order(2)=3 order(3)=2 order(4)=0 order(5)=1");
     // The only cabin has just gone, and comes a whole turn later; an idler rides for more than a turn.
     Edges.run(open("hall 2;plain 0 1", 0) + "order(-1)=5 order(0)=0");
     Edges.run(open("hall 2;room 1;plain 0 1;bearer 0 1;plain 0 1", 0) + "order(-1)=75 order(0)=0 order(1)=1 order(2)=2");
