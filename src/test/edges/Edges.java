@@ -61,8 +61,8 @@ final class Edges {
     document = Files.readString(DOCUMENT, StandardCharsets.UTF_8).replaceAll("\\s+", " ");
     named = new boolean[document.length()];
     nameAll("## Promise \\d+: (A new object|\\w+)");
-    nameAll("`int \\w+\\([^)]*\\)`:|`PaternosterRide\\(\\)`:|```text|========|## Terms");
-    nameAll("Ahead of the calls (`\\w+`,? )+the interface says: ---- [a-z ]+\\.");
+    nameAll("`int \\w+\\([^)]*\\)`:|`PaternosterRide\\(\\)`:|```text|```java|========");
+    nameAll("# PaternosterRide |## (What it is|The public face|Terms|Not promised)");
   }
 
   private static void nameAll(String pattern) {
@@ -79,10 +79,9 @@ final class Edges {
 
   private static void lookForUnnamed() {
     if (document.isEmpty()) { return; }
-    int first = document.indexOf("## Terms"), last = document.indexOf("## Not promised");
     StringBuilder left = new StringBuilder();
-    for (int i = first; i <= last; i++) {
-      if (!named[i] && i < last) { left.append(document.charAt(i)); continue; }
+    for (int i = 0; i <= document.length(); i++) {
+      if (i < document.length() && !named[i]) { left.append(document.charAt(i)); continue; }
       if (left.toString().matches(".*\\w.*")) { fail("no test names: " + left); }
       left.setLength(0);
     }
@@ -138,6 +137,22 @@ final class Edges {
       }
     }
   }
+
+  /** What is done to another object changes nothing of the one of the scene. */
+  static void apart(String scene, String other) {
+    for (String probe : PROBES) {
+      Ride alone = new Ride(), beside = new Ride();
+      play(alone, scene);
+      String a = answers(alone, probe);
+      play(beside, scene);
+      play(new Ride(), other);
+      String b = answers(beside, probe);
+      holds("an object answers alike beside another one: " + a + " and " + b, a.equals(b));
+    }
+  }
+
+  /** What no script can tell. */
+  static void holds(String what, boolean so) { due(what, so ? 1 : 0, 1); }
 
   /** The FAULT of a text behind a scene, looked at twice; hall() takes the text just if there is none. */
   static void faultBehind(String scene, String text, int at) {

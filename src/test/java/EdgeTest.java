@@ -1,7 +1,8 @@
-/** Each sentence of the document that names an edge, by itself; the parts stand in src/test/edges. */
+/** Each sentence of the document by itself, from its first line to its last; the parts stand in src/test/edges. */
 public final class EdgeTest {
   public static void main(String[] args) throws Exception {
     Edges.begin();
+    WholeEdges.all();
     FloorEdges.all();
     TextEdges.all();
     RideEdges.all();

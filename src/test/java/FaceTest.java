@@ -9,7 +9,9 @@ import java.nio.file.Path;
 import java.util.ArrayList;
 import java.util.Arrays;
 import java.util.List;
+import java.util.Map;
 import java.util.Set;
+import java.util.TreeMap;
 import java.util.TreeSet;
 import java.util.regex.Matcher;
 import java.util.regex.Pattern;
@@ -34,6 +36,7 @@ public final class FaceTest {
     String code = bare(Files.readString(Path.of(SOURCE), StandardCharsets.ISO_8859_1));
     words(code);
     lengths(code);
+    depths(code);
     whatCallsMake();
     System.out.println(wrong == 0 ? "the face is as told" : wrong + " wrong");
     if (wrong != 0) { System.exit(1); }
@@ -93,7 +96,7 @@ public final class FaceTest {
 
   private static void words(String code) {
     String[] forbidden = {"\\bthrow\\b", "\\bthrows\\b", "\\btry\\b", "\\bcatch\\b", "\\bsynchronized\\b", "\\bassert\\b", "->", "::", "\\bpackage\\b", "\\bimport\\b",
-      "\\bvar\\b", "\\bhashCode\\b", "\\btoString\\b", "\\bordinal\\b", "\\bvalues\\(", "\\w+Exact\\b", "\\bObject\\b", "\\bdouble\\b", "\\bfloat\\b", "\\bSystem\\.(?!arraycopy)"};
+      "\\bvar\\b", "\\bhashCode\\b", "\\btoString\\b", "\\bordinal\\b", "\\bvalues\\(", "\\w+Exact\\b", "\\bObject\\b", "\\bdouble\\b", "\\bfloat\\b", "\"\" \\+", "\\+ \"\"", "\\bSystem\\.(?!arraycopy)"};
     for (String word : forbidden) {
       Matcher m = Pattern.compile(word).matcher(code);
       if (m.find()) { say("the source has " + m.group()); }
@@ -112,6 +115,37 @@ public final class FaceTest {
       while (end < lines.length && !lines[end].equals(m.group(1) + "}")) { end++; }
       if (end - i > 60) { say("too long: " + lines[i].trim()); }
     }
+  }
+
+  /** Calls go at most eight deep; methods of one name are taken as one, which can make it seem deeper, but never less deep. */
+  private static void depths(String code) {
+    Map<String, StringBuilder> bodies = new TreeMap<>();
+    Matcher m = Pattern.compile("\n( {4}| {8})(?! |if |for |while |switch |else |return |do )[\\w\\[\\] ]*?(\\w+)\\([^()]*\\) \\{(.*?)\n\\1\\}", Pattern.DOTALL).matcher(code);
+    for (int at = 0; m.find(at); at = m.end()) { bodies.computeIfAbsent(m.group(2), name -> new StringBuilder()).append(m.group(3)); }
+    Map<String, Set<String>> calls = new TreeMap<>();
+    for (String name : bodies.keySet()) {
+      Set<String> called = new TreeSet<>();
+      Matcher c = Pattern.compile("(\\w+)\\(").matcher(bodies.get(name));
+      while (c.find()) { if (bodies.containsKey(c.group(1))) { called.add(c.group(1)); } }
+      calls.put(name, called);
+    }
+    for (String face : FACE) {
+      if (!calls.containsKey(face.split(" ")[0])) { say("no body was found of " + face); continue; }
+      List<String> path = deepest(face.split(" ")[0], calls, new ArrayList<>());
+      if (path.size() > 8) { say("too deep, or without end: " + path); }
+    }
+  }
+
+  private static List<String> deepest(String name, Map<String, Set<String>> calls, List<String> above) {
+    List<String> path = new ArrayList<>(above);
+    path.add(name);
+    List<String> longest = path;
+    if (path.size() > 20) { return path; }
+    for (String called : calls.get(name)) {
+      List<String> found = deepest(called, calls, path);
+      if (found.size() > longest.size()) { longest = found; }
+    }
+    return longest;
   }
 
   private static void whatCallsMake() {
